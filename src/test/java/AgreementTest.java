@@ -109,6 +109,11 @@ public final class AgreementTest {
         faulty("hour 5;", 1, 0);
         faulty("hourss 5;", 1, 0);
         faulty("Hours 5;", 1, 0);
+        // The ends of the alphabet are letters too: they belong to the word that they follow.
+        for (String letter : new String[] {"a", "z", "A", "Z"}) {
+            faulty("hours" + letter + " 5;", 1, 0);
+            faulty("hours 5;" + letter, 1, 8);
+        }
         faulty("HOURS 5;", 1, 0);
         faulty("ho urs 5;", 1, 0);
         faulty("hours -5;", 1, 6);

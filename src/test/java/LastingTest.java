@@ -52,7 +52,7 @@ public final class LastingTest {
         share(x, 500, 3, 4);
         due.is("until below 100", x.until(0, 100), 0);
         due.is("until below 76", x.until(0, 76), 0);
-        due.is("until below 75", x.until(0, 75), -1);
+        due.is("until below 75, which 3/4 is not", x.until(0, 75), -1);
         for (int i = 0; i < 4; i++) {
             x.notice(i);
         }
