@@ -1,9 +1,12 @@
 import java.util.Random;
 
-/** Runs of up to 512 calls of every kind, each answer compared with the model's. */
+/** Promises 1 to 24 together: runs of 512 calls of every kind, each answer compared with the model's. */
 public final class AnyCallsTest {
     private static final int RUNS = 1500;
+    /** An object is used for at most so many calls. */
     private static final int CALLS = 512;
+    /** No step of a run makes more calls than this. */
+    private static final int CALLS_OF_A_STEP = 16;
     private static final int[] WILD = {
         Integer.MIN_VALUE, Integer.MIN_VALUE + 1, -1000, -2, -1, 0, 1, 7, 8, 9, 99, 100, 101, 200, 201, 500, 501,
         4095, 4096, 1 << 30, Integer.MAX_VALUE - 1, Integer.MAX_VALUE};
@@ -19,6 +22,7 @@ public final class AnyCallsTest {
     private final boolean eager;
     private final RoomForHelp x = new RoomForHelp();
     private final Model m = new Model();
+    private int calls = 0;
 
     private AnyCallsTest(Due due, int run) {
         this.due = due;
@@ -52,7 +56,7 @@ public final class AnyCallsTest {
         for (int w : weights) {
             sum += w;
         }
-        for (int i = 0; i < CALLS && !due.hasWrong(); i++) {
+        for (int i = 0; i < CALLS && calls <= CALLS - CALLS_OF_A_STEP && !due.hasWrong(); i++) {
             int r = random.nextInt(sum);
             int which = 0;
             while (r >= weights[which]) {
@@ -114,6 +118,7 @@ public final class AnyCallsTest {
     }
 
     private void is(String call, long got, long want) {
+        calls++;
         due.is("run " + run + ": " + call, got, want);
     }
 
