@@ -4,7 +4,9 @@ public final class BestTest {
 
     public static void main(String[] args) {
         fewestRunawaysBeforeLikes();
+        runawaysToThoseWithNobody();
         mostLikesOfTheStable();
+        mostLikesFirstOrLast();
         firstByHomes();
         noneLast();
         noLikesAtAll();
@@ -47,6 +49,19 @@ public final class BestTest {
         expect(x, "runaways first", 0, 120, 0, 1);
     }
 
+    private static void runawaysToThoseWithNobody() {
+        due.promise(7, "each of both is with nobody or likes the other more than whom it is with");
+        RoomForHelp x = Due.open(1, 2);
+        like(x, 0, 0, 60, 0);
+        like(x, 0, 1, 59, 99);
+        // With helper 1 there would be 158 likes, but the home would leave for helper 0, who is with nobody.
+        expect(x, "a helper with nobody", 0, 60, 0);
+        RoomForHelp y = Due.open(2, 1);
+        like(y, 0, 0, 0, 60);
+        like(y, 1, 0, 99, 59);
+        expect(y, "a home with nobody", 0, 60, 0, -1);
+    }
+
     private static void mostLikesOfTheStable() {
         due.promise(9, "of these the most likes (over its pairs, of both for each other, together)");
         RoomForHelp x = Due.open(2, 2);
@@ -56,6 +71,20 @@ public final class BestTest {
         like(x, 1, 1, 60, 10);
         // Both perfect pairings are stable: 140 likes straight, 298 crossed.
         expect(x, "most likes", 0, 298, 1, 0);
+    }
+
+    /** Homes that like all alike never run away, so that every pairing of all of them is stable. */
+    private static void mostLikesFirstOrLast() {
+        due.promise(9, "of these the most likes (over its pairs, of both for each other, together)");
+        RoomForHelp x = Due.open(1, 3);
+        like(x, 0, 0, 50, 90);
+        like(x, 0, 2, 50, 60);
+        expect(x, "the first has the most", 0, 140, 0);
+        RoomForHelp y = Due.open(4, 4);
+        for (int home = 0; home < 4; home++) {
+            like(y, home, 3 - home, 50, 99);
+        }
+        expect(y, "the last has the most", 0, 4 * 149, 3, 2, 1, 0);
     }
 
     private static void firstByHomes() {

@@ -208,6 +208,8 @@ public final class LastingTest {
         share(x, 9, 7, 16);
         share(x, 15, 1, 16);
         share(x, 16, 0, 1);
+        due.is("1/16 is below 7", x.until(0, 7), 15);
+        due.is("1/16 isn't below 6", x.until(0, 6), 16);
     }
 
     private static void otherShares() {
