@@ -10,7 +10,7 @@ public final class RefusedCallsTest {
     /** With the calls that make an object there are never more than the 512 that it may be used for. */
     private static final int MOST_SEEN = 400;
     private static final Due due = new Due("RefusedCallsTest",
-        2, 3, 4, 5, 6, 8, 10, 11, 12, 13, 15, 16, 17, 18, 19, 20, 21, 22, 23, 24);
+        2, 3, 4, 5, 6, 7, 8, 9, 10, 11, 12, 13, 15, 16, 17, 18, 19, 20, 21, 22, 23, 24);
 
     public static void main(String[] args) {
         homes();
@@ -25,6 +25,7 @@ public final class RefusedCallsTest {
         questions();
         everythingIsFull();
         lateWeeks();
+        tooManyAreFree();
         due.close();
     }
 
@@ -72,6 +73,13 @@ public final class RefusedCallsTest {
         x.weeks(2);
         x.notice(0);
         Due.feed(x, "hours 8;" + " ".repeat(184) + "trial 7;");
+        return x;
+    }
+
+    /** 181 bytes: there is room for some of those that may not come. */
+    private static RoomForHelp nearlyFull() {
+        RoomForHelp x = livedIn();
+        Due.feed(x, " ".repeat(173));
         return x;
     }
 
@@ -236,6 +244,7 @@ public final class RefusedCallsTest {
         refused(RefusedCallsTest::full, "a seventeenth pair", x -> none(x.live(0, 0)));
         due.promise(12, "NONE, and none come, if there would be more than 200.");
         refused(RefusedCallsTest::full, "more than 200 bytes", x -> x.feed(1, 2, 3, 4, 5));
+        refused(RefusedCallsTest::nearlyFull, "the 201st byte", x -> x.feed(1, 2, 3, 4, 5));
     }
 
     private static void lateWeeks() {
@@ -246,5 +255,15 @@ public final class RefusedCallsTest {
         due.promise(19, "NONE: nobody lives there, it was given, or the END would be beyond 500.");
         refused(RefusedCallsTest::late, "a notice beyond 500", x -> x.notice(0));
         refused(RefusedCallsTest::late, "a notice that was given", x -> x.notice(1));
+    }
+
+    private static void tooManyAreFree() {
+        due.promise(7, "NONE: more than 6 free HOMES, or free HELPERS.");
+        refused(() -> Due.open(7, 6), "best() of seven homes", RoomForHelp::best);
+        refused(() -> Due.open(6, 7), "best() of seven helpers", RoomForHelp::best);
+        due.promise(8, "NONE for others, and as best().");
+        refused(() -> Due.open(7, 7), "paired(0) of seven", x -> x.paired(0));
+        due.promise(9, "NONE as best().");
+        refused(() -> Due.open(7, 7), "likes() of seven", RoomForHelp::likes);
     }
 }
