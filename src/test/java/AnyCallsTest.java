@@ -35,7 +35,9 @@ public final class AnyCallsTest {
     public static void main(String[] args) {
         Due due = new Due("AnyCallsTest");
         for (int run = 0; run < RUNS && !due.hasWrong(); run++) {
-            new AnyCallsTest(due, run).go();
+            AnyCallsTest test = new AnyCallsTest(due, run);
+            test.go();
+            due.yes("run " + run + ": all its calls", test.calls == CALLS || due.hasWrong());
         }
         due.close();
     }
@@ -56,18 +58,27 @@ public final class AnyCallsTest {
         for (int w : weights) {
             sum += w;
         }
-        for (int i = 0; i < CALLS && calls <= CALLS - CALLS_OF_A_STEP && !due.hasWrong(); i++) {
+        for (int i = 0; calls < CALLS && !due.hasWrong(); i++) {
             int r = random.nextInt(sum);
             int which = 0;
             while (r >= weights[which]) {
                 r -= weights[which];
                 which++;
             }
-            if ((which == 5 || which == 6 || which == 7) && i % 8 != 0) {
+            if (isPairing(which) && i % 8 != 0 || isRow(which) && calls > CALLS - CALLS_OF_A_STEP) {
                 continue;
             }
             call(which);
         }
+    }
+
+    private static boolean isPairing(int which) {
+        return which == 5 || which == 6 || which == 7;
+    }
+
+    /** A step of more calls than one: it could go beyond the last call. */
+    private static boolean isRow(int which) {
+        return which == 11 || which == 13 || which == 20;
     }
 
     /** Some homes and helpers that mostly can, so that there is something to pair. */

@@ -15,6 +15,14 @@ final class Document {
         return terms().contains(words) || section(promise).contains(words);
     }
 
+    /** The rows of the public face between its first brace and its last. */
+    static String[] face() {
+        String head = "public final class RoomForHelp { ";
+        int from = TEXT.indexOf(head);
+        int to = TEXT.indexOf(" } ```", Math.max(from, 0));
+        return from < 0 || to < 0 ? new String[0] : TEXT.substring(from + head.length(), to).split(" (?=public)");
+    }
+
     private static String terms() {
         return TEXT.substring(0, start(1));
     }

@@ -5,7 +5,6 @@ import java.lang.reflect.Modifier;
 import java.nio.file.Files;
 import java.nio.file.Path;
 import java.util.ArrayList;
-import java.util.Arrays;
 import java.util.HashSet;
 import java.util.List;
 import java.util.Set;
@@ -16,25 +15,32 @@ import java.util.regex.Pattern;
 /** The public face, and what LANGUAGE.md rules out as far as it can be seen from outside. */
 public final class FaceTest {
     private static final Due due = new Due("FaceTest");
-    private static final String[] FACE = {
-        "int home(int,int,int,int)", "int helper(int,int,int,int)", "boolean check(int,int)",
-        "boolean like(int,int,boolean,int)", "int why(int,int)", "int best()", "int paired(int)", "int likes()",
-        "boolean live(int,int)", "int weeks(int)", "int feed(int,int,int,int,int)", "int end(int)",
-        "int agreement()", "int fault(int)", "boolean report(int,int,int,int)", "int judge(int,int)",
-        "int judged(int,int)", "int notice(int)", "int homeOf(int,int)", "long share(int,int,boolean)",
-        "int until(int,int)", "int lasting(int,int)", "int about(int)"};
+    private static final Pattern METHOD = Pattern.compile("public (\\w+) (\\w+)\\((.*)\\);");
+    /** The document's methods, each as its answer's type, its name and the types of its parameters. */
+    private static final Set<String> FACE = new TreeSet<>();
+    private static final Set<String> NAMES = new HashSet<>();
 
     public static void main(String[] args) throws Exception {
+        readFace();
         members();
         for (Class<?> inside : RoomForHelp.class.getDeclaredClasses()) {
             classInside(inside);
         }
+        due.yes("twelve classes at most", RoomForHelp.class.getDeclaredClasses().length < 12);
         source(Files.readString(Path.of("src/main/java/RoomForHelp.java")));
+        constants();
         due.close();
     }
 
-    private static void members() {
+    private static void constants() throws Exception {
+        due.promise(1, "The constants: `NONE = -1`: None.");
         due.is("NONE", RoomForHelp.NONE, -1);
+        Field none = RoomForHelp.class.getDeclaredField("NONE");
+        due.is("public, static and final", none.getModifiers(), Modifier.PUBLIC | Modifier.STATIC | Modifier.FINAL);
+        due.yes("an int", none.getType() == int.class);
+    }
+
+    private static void members() {
         due.is("public and final", RoomForHelp.class.getModifiers() & 0xFFFF, Modifier.PUBLIC | Modifier.FINAL);
         Constructor<?>[] made = RoomForHelp.class.getDeclaredConstructors();
         due.is("constructors", made.length, 1);
@@ -48,37 +54,51 @@ public final class FaceTest {
                 }
                 open.add(m.getReturnType().getName() + " " + m.getName() + "(" + String.join(",", types) + ")");
             } else {
-                due.no("a private method named as a public one: " + m.getName(), names().contains(m.getName()));
+                due.no("a private method named as a public one: " + m.getName(), NAMES.contains(m.getName()));
             }
             due.yes("seven parameters at most: " + m.getName(), m.getParameterCount() <= 7);
         }
-        Set<String> want = new TreeSet<>(Arrays.asList(FACE));
-        due.yes("the methods " + open + ", due are " + want, open.equals(want));
+        due.yes("the methods " + open + ", due are " + FACE, open.equals(FACE));
         for (Field f : RoomForHelp.class.getDeclaredFields()) {
             due.yes("private: " + f.getName(), f.getName().equals("NONE") || Modifier.isPrivate(f.getModifiers()));
             staticIsFinal(f);
         }
+        twentyFieldsAtMost(RoomForHelp.class);
     }
 
-    private static Set<String> names() {
-        Set<String> names = new HashSet<>();
-        for (String method : FACE) {
-            names.add(method.replaceAll("^\\w+ (\\w+)\\(.*", "$1"));
+    private static void readFace() {
+        for (String row : Document.face()) {
+            Matcher m = METHOD.matcher(row);
+            if (m.matches()) {
+                FACE.add(m.group(1) + " " + m.group(2) + "(" + m.group(3).replaceAll("(\\w+) \\w+", "$1").replace(" ", "") + ")");
+                NAMES.add(m.group(2));
+            }
         }
-        return names;
+        due.is("rows of the face: a constant, a constructor, the methods", Document.face().length, 2 + FACE.size());
+        due.is("methods of the face", FACE.size(), 23);
     }
 
     private static void classInside(Class<?> c) {
         int flags = c.getModifiers();
         due.yes("static: " + c, Modifier.isStatic(flags));
         due.no("public or protected: " + c, Modifier.isPublic(flags) || Modifier.isProtected(flags));
+        due.is("classes inside " + c, c.getDeclaredClasses().length, 0);
         for (Field f : c.getDeclaredFields()) {
             staticIsFinal(f);
         }
+        twentyFieldsAtMost(c);
         for (Method m : c.getDeclaredMethods()) {
-            due.no("a method inside named as a public one: " + m.getName(), names().contains(m.getName()));
+            due.no("a method inside named as a public one: " + m.getName(), NAMES.contains(m.getName()));
             due.yes("seven parameters at most: " + m.getName(), m.getParameterCount() <= 7);
         }
+    }
+
+    private static void twentyFieldsAtMost(Class<?> c) {
+        int fields = 0;
+        for (Field f : c.getDeclaredFields()) {
+            fields += Modifier.isStatic(f.getModifiers()) ? 0 : 1;
+        }
+        due.yes("twenty fields at most: " + c, fields <= 20);
     }
 
     private static void staticIsFinal(Field f) {
